@@ -1277,7 +1277,6 @@ public final class StairMeter {
             this.house = house;
         }
 
-        @Override
         boolean readLine() {
             if (tape.thing() == Tape.LODGER) {
                 return readLodger();
@@ -1360,7 +1359,6 @@ public final class StairMeter {
             this.law = law;
         }
 
-        @Override
         boolean readLine() {
             int kind = kindOf(tape.thing());
             if (!tape.takes(Tape.TURN) && !tape.takes(Tape.SPARE) && !tape.takes(Tape.REFUSE)) {
@@ -1800,12 +1798,13 @@ public final class StairMeter {
             return seed >>> 16 & 32767;
         }
 
+        // Nobody has CHILL unless it was dark.
         private void light(int needed) {
             gas -= needed;
-            dark = 0;
-            for (int i = 0; i < lodgers; i++) {
+            for (int i = 0; i < lodgers && dark > 0; i++) {
                 set(i, CHILL, 0);
             }
+            dark = 0;
         }
 
         private void darken() {

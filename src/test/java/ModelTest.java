@@ -46,6 +46,9 @@ public final class ModelTest {
 
     private void run(int seed) {
         int length = 40 + random.nextInt(300);
+        if (random.nextInt(12) > 0) {
+            tellFullHouse();
+        }
         tellHouse();
         if (random.nextInt(4) > 0) {
             tellLaw();
@@ -94,17 +97,18 @@ public final class ModelTest {
     private void callAny(String name) {
         int[] a = new int[Face.parameters(name)];
         for (int i = 0; i < a.length; i++) {
-            a[i] = Face.isBoolean(name, i) ? random.nextInt(2) : number(name, i);
+            a[i] = Face.isBoolean(name, i) ? random.nextInt(2) : number(name, i, a[0]);
         }
         call(name, a);
     }
 
-    private int number(String name, int parameter) {
+    private int number(String name, int parameter, int first) {
         if (random.nextInt(60) == 0) {
             return random.nextBoolean() ? random.nextInt() : random.nextInt(6) - 3;
         }
         switch (name) {
-            case "needs": case "tops": case "kettle": return random.nextInt(52) - 2;
+            case "needs": return random.nextInt(50) - 1;
+            case "tops": case "kettle": return random.nextInt(10) > 0 ? random.nextInt(128) : random.nextInt();
             case "ticks": return random.nextInt(4) > 0 ? 1 + random.nextInt(12) : 1 + random.nextInt(97);
             case "trial": case "span": return random.nextInt(98);
             case "price": case "earns": return random.nextInt(4) > 0 ? 1 + random.nextInt(30) : random.nextInt(102);
@@ -114,19 +118,25 @@ public final class ModelTest {
             case "seed": return random.nextInt();
             case "log": return parameter == 0 ? random.nextInt(64) - 1 : random.nextInt(6);
             case "pairs": return random.nextInt(lodgers + 2) - 1;
-            default: return parameter == 0 ? someLodger() : second(name, parameter);
+            default: return parameter == 0 ? someLodger() : second(name, parameter, first);
         }
     }
 
-    private int second(String name, int parameter) {
+    private int second(String name, int parameter, int first) {
         switch (name) {
             case "lodger": return random.nextInt(15);
             case "isHome": case "home": return random.nextInt(49);
             case "waits": case "grief": return random.nextInt(22);
             case "fair": return random.nextInt(1001);
             case "after": return parameter == 1 ? random.nextInt(98) : random.nextInt(4);
-            default: return someLodger();
+            default: return someOther(first);
         }
+    }
+
+    /** Two of one number are asked for less often than they would come. */
+    private int someOther(int first) {
+        int other = someLodger();
+        return other == first && random.nextInt(4) > 0 ? someLodger() : other;
     }
 
     private int someLodger() {
@@ -153,6 +163,26 @@ public final class ModelTest {
         call("house");
         call("fault");
         call("count", 0);
+    }
+
+    /** Some LODGERS who are often at HOME, a price and a debt or two, so that there is something to ask for. */
+    private void tellFullHouse() {
+        int most = 1 + random.nextInt(6);
+        StringBuilder text = new StringBuilder();
+        for (int i = 0; i < most; i++) {
+            text.append(i > 0 ? ";" : "").append(lodgerLine());
+        }
+        text.append(";").append(words("price", number(1, 40)));
+        tell(Face.bytes(cut(text.toString())));
+        call("house");
+        StringBuilder debts = new StringBuilder(words("frost", number(0, 60)));
+        for (int i = random.nextInt(8); i > 0 && lodgers > 1; i--) {
+            int first = random.nextInt(lodgers);
+            int other = (first + 1 + random.nextInt(lodgers - 1)) % lodgers;
+            debts.append(";").append(words("owes", "" + first, "" + other, number(0, 99)));
+        }
+        tell(Face.bytes(debts.toString()));
+        call("house");
     }
 
     private String houseLine() {
