@@ -1176,18 +1176,21 @@ public final class StairMeter {
 
         // NONE, and wrong at it, if no such number stands here.
         private int takesNumber(int least, int most) {
-            if (at >= 0 && at <= MOST_BYTES && at < size && things[at] == NUMBER
-                    && numbers[at] >= least && numbers[at] <= most) {
-                at++;
-                return numbers[at - 1];
+            if (at < 0 || at > MOST_BYTES) {
+                return NONE;
             }
-            fails();
-            return NONE;
+            int number = things[at] == NUMBER ? numbers[at] : NONE;
+            if (number < least || number > most) {
+                wrong = begins[at];
+                return NONE;
+            }
+            at++;
+            return number;
         }
 
         // Always false, so that a reader can hand it on.
         private boolean fails() {
-            wrong = at >= 0 && at <= MOST_BYTES ? begins[at] : MOST_BYTES;
+            wrong = at >= 0 && at <= MOST_BYTES ? begins[at] : 0;
             return false;
         }
     }
@@ -1428,18 +1431,15 @@ public final class StairMeter {
                 law.add(Law.FACT, Law.IS_COLD);
                 return true;
             }
-            return readSum() && readComparison();
+            boolean isRight = readSum() && readOrder() && readSum();
+            law.add(Law.COMPARE, 0);
+            return isRight;
         }
 
-        private boolean readComparison() {
-            law.add(Law.LEFT, 0);
+        private boolean readOrder() {
             boolean isLess = tape.takes('<');
-            if (!isLess && !tape.takes('>')) {
-                return tape.fails();
-            }
-            boolean isRight = readSum();
             law.add(isLess ? Law.LESS : Law.MORE, 0);
-            return isRight;
+            return isLess || tape.takes('>') || tape.fails();
         }
 
         private boolean readSum() {
@@ -1482,9 +1482,9 @@ public final class StairMeter {
 
         private static final int NUMBER = 0;
         private static final int PART = 1;
-        private static final int LEFT = 2;
-        private static final int LESS = 3;
-        private static final int MORE = 4;
+        private static final int LESS = 2;
+        private static final int MORE = 3;
+        private static final int COMPARE = 4;
         private static final int FACT = 5;
         private static final int NOT = 6;
         private static final int IF_SO = 7;
@@ -1590,6 +1590,7 @@ public final class StairMeter {
 
         private boolean holds(int line, int[] values) {
             boolean flag = true;
+            boolean isLess = true;
             int left = 0;
             int sum = 0;
             if (line < 0 || line >= MOST_LAW_LINES) {
@@ -1605,16 +1606,14 @@ public final class StairMeter {
                     case PART:
                         sum += value;
                         break;
-                    case LEFT:
-                        left = sum;
-                        sum = 0;
-                        break;
                     case LESS:
-                        flag = left < sum;
+                    case MORE:
+                        left = sum;
+                        isLess = (steps[at] & 15) == LESS;
                         sum = 0;
                         break;
-                    case MORE:
-                        flag = left > sum;
+                    case COMPARE:
+                        flag = isLess ? left < sum : left > sum;
                         sum = 0;
                         break;
                     case FACT:
