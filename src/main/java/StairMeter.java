@@ -1014,6 +1014,7 @@ public final class StairMeter {
         private static final int END = 256;
         private static final int NUMBER = 257;
         private static final int STRANGE = 258;
+        private static final int WORD = 259;
 
         // In the order of the words below.
         private static final int LODGER = 260;
@@ -1109,7 +1110,7 @@ public final class StairMeter {
         // NONE of a sign, which stands alone.
         private static int kindOf(int sign) {
             if (sign >= 'a' && sign <= 'z') {
-                return LODGER;
+                return WORD;
             }
             return sign >= '0' && sign <= '9' ? NUMBER : NONE;
         }

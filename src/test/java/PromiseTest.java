@@ -29,6 +29,9 @@ public final class PromiseTest {
         counts();
         trialsAndLog();
         undoneAndImage();
+        edgesOfTexts();
+        edgesOfTicks();
+        edgesOfSets();
         for (int promise = 1; promise <= 64; promise++) {
             if (!SEEN.contains(promise)) {
                 wrong++;
@@ -1446,5 +1449,141 @@ public final class PromiseTest {
             back = 1
             count 2 = -1
             """);
+    }
+
+    // ---------------------------------------------------------------- edges that are easily missed
+
+    private static void edgesOfTexts() {
+        // What was behind the end of the TAPE does not count: "gas 123;", of which five bytes stay.
+        run(3, "feed 1734439712 825373499 0 0 0 = 20\n end 5 = 1\n house = 1\n count 5 = 1\n");
+        run(4, "house \"" + ";".repeat(400) + "\" = IAE\n fault = 0\n house \"" + " ".repeat(400) + "\" = 1\n"
+            + "house \"" + " ".repeat(399) + "x\" = IAE\n fault = 399\n"
+            + "house \"" + " ".repeat(396) + "gas \" = IAE\n fault = 400\n");
+        String two = "lodger burns 4 home 0 to 47 coins 6;lodger burns 7 home 0 to 47 coins 2";
+        run(5, holds(two, new Object[][] {
+            {"2<1 and 2>1", 0, 0}, {"2<1 and 2>1 and 2>1", 0, 0}, {"2>1 and 2<1 and 2>1", 0, 0}, {"2>1 or 2<1", 1, 1},
+            {"2>1 or 2<1 or 2<1", 1, 1}, {"2<1 or 2>1 or 2<1", 1, 1}, {"not(2<1 and 2>1)and not(2<1)", 1, 1},
+            {"(2<1 and 2>1 and 2>1)or(2>1 or 2<1 or 2<1)and lodger>0", 0, 1}, {"1" + "+1".repeat(150) + ">150", 1, 1},
+            {"1" + "+1".repeat(150) + ">151", 0, 0}, {"1<0" + "or1<0".repeat(75) + "or 0<1", 1, 1},
+            {"1<0" + "or1<0".repeat(75) + "or 1<0", 0, 0}, {"0<1" + "and0<1".repeat(60) + "and lodger<1", 1, 0},
+        }));
+        // Less LINES than before: none of those stays.
+        run(5, "house \"" + two + "\" = 1\n" + """
+            law "turn 1;turn 2;refuse" = 3
+            lodger 0 9 = 3
+            lodger 0 10 = 1
+            law "turn 1" = 1
+            lodger 0 9 = 1
+            lodger 0 10 = 0
+            """);
+        // DARK is 2, CHILL of the one who came later 1; the one who fed is not cold, the other one is.
+        run(5, """
+            house "lodger burns 1 home 0 to 47 coins 1 bears 9 waits 1;lodger burns 1 home 1 to 47 coins 0 bears 0" = 1
+            ticks 2 = 2
+            law "turn 1 if last;turn 2 if cold;turn 4 if chill>1;turn 8 if dark>1;turn 16 if tick>1;turn 32 if fed>0" = 6
+            lodger 0 9 = 61
+            lodger 1 9 = 26
+            """);
+    }
+
+    private static void edgesOfTicks() {
+        run(14, "house \"" + lodger("coins 1;") + lodger("coins 0;owes 0 1 1") + "\" = 1\n repay 0 1 = 1\n owes 0 1 = 0\n");
+        // Frost does not come AHEAD: with it, it would be dark two TICKS sooner, with the other one at home.
+        run(23, """
+            house "lodger burns 1 home 0 to 2 coins 1 bears 0 waits 0;lodger burns 1 home 3 to 47 coins 1 bears 0 waits 0" = 1
+            house "gas 4;frost 100" = 2
+            lasts = 5
+            out = 5
+            feeder = 1
+            shiver = 1
+            ease 4 = 0
+            ease 5 = 1
+            coins 4 = 0
+            trial 3 0 = 1
+            """);
+        run(28, "house \"" + lodger("coins 5 bears 0 waits 0;gas 48;frost 100") + "\" = 1\n" + """
+            grief 0 0 = 0
+            lodger 0 13 = 0
+            restless = 0
+            earns 20 = 0
+            dear 0 = 1
+            dear 1 = 1
+            after 0 48 1 = 0
+            """);
+        // What was COLD and FED before does not count.
+        run(28, "house \"" + lodger("coins 2 bears 0 waits 0;price 3;gas 2") + "\" = 1\n ticks 3 = 1\n grief 0 0 = 45\n");
+        // Feeding never pays for who is gone before it is cold: WAITS until then.
+        run(29, "house \"lodger burns 1 home 0 to 19 coins 9 bears 20 waits 0;price 1\" = 1\n restless = 1\n lodger 0 13 = 20\n"
+            + "grief 0 19 = 3\n grief 0 20 = 0\n");
+        run(7, "house \"lodger burns 1 home 0 to 0 coins 9 bears 20 waits 0\" = 1\n lodger 0 13 = 1\n put 0 = 20\n lodger 0 11 = 100\n");
+        run(27, "house \"lodger burns 9 home 0 to 47 coins 0 bears 0;price 4\" = 1\n ease 44 = 99\n ease 45 = -1\n");
+        // One would be warmer, the other one as it is.
+        run(39, """
+            house "lodger burns 9 home 0 to 19 coins 0 bears 9;lodger burns 1 home 40 to 41 coins 0 bears 0;gas 20" = 1
+            warmer 0 1 = 0
+            warmer 1 0 = 0
+            """);
+        run(39, """
+            house "lodger burns 9 home 0 to 19 coins 0 bears 9;lodger burns 1 home 20 to 31 coins 0 bears 0;gas 20;frost 100" = 1
+            warmer 0 1 = 1
+            """);
+        run(34, "house \"lodger burns 3 home 0 to 47 coins 1 bears 0 waits 0\" = 1\n dear 1 = 99\n dear 0 = 1\n");
+        // COINS fed from SEED 1 to 6, of these alone: the first or the last is the least or the greatest.
+        spans(7, 40, 3, 2, 3);
+        spans(15, 80, 5, 4, 5);
+        spans(2, 7, 1, 1, 1);
+        spans(4, 58, 1, 3, 3);
+        spans(6, 59, 9, 1, 2);
+        spans(13, 8, 12, 1, 2);
+        run(61, "house \"" + lodger("coins 5;") + lodger("coins 5;price 4") + "\" = 1\n" + """
+            put 0 = 4
+            put 1 = 8
+            undo = 1
+            count 13 = 1
+            log 0 3 = 0
+            log 0 4 = 4
+            log 1 4 = -2
+            put 1 = 8
+            log 0 3 = 1
+            log 1 3 = 0
+            image = 0
+            ticks 96 = 76
+            back = 1
+            count 13 = 2
+            log 0 3 = 1
+            log 1 3 = 0
+            """);
+    }
+
+    private static void spans(int n, int frost, int price, int least, int greatest) {
+        run(57, "house \"" + lodger("coins 99 waits 0;frost " + frost + ";price " + price) + "\" = 1\n"
+            + "span " + n + " 0 = " + least + "\n span " + n + " 1 = " + greatest + "\n");
+    }
+
+    private static void edgesOfSets() {
+        run(31, "house \"lodger burns 1 home 3 to 3 coins 0\" = 1\n fair 0 9 = 9\n stand 0 = 100\n");
+        // TICK 0, and TICK 1, alone.
+        run(32, """
+            house "lodger burns 2 home 0 to 0 coins 0" = 1
+            tops 1 = 2
+            keepers = 1
+            busy = 0
+            alone = 47
+            home 0 1 1 = 1
+            busy = 1
+            home 0 0 1 = 2
+            ask [] = 0
+            culprit 0 [0 1] = 1
+            home 0 47 47 = 1
+            tops 1 = 2
+            keepers = 1
+            busy = 47
+            """);
+        run(36, THREE + "culprit 0 [5 0 7 1] = 2\n culprit 0 [] = 73\n drawn 0 [10 5] = 2\n drawn 0 [] = 8\n drawn 1 [0 3 10 2] = 5\n");
+        String two = "house \"" + lodger("coins 5;") + lodger("coins 5;price 1") + "\" = 1\n";
+        run(43, two + "put 0 = 1\n put 1 = 2\n swings 0 = 1\n swings 1 = 1\n minimal = 1\n dummies = 0\n kettle 3 = 1\n kettle 1 = 0\n");
+        run(44, two + "put 1 = 1\n minimal = 1\n swings 0 = 0\n swings 1 = 2\n dummies = 1\n");
+        run(50, "house \"lodger burns 1 home 9 to 9 coins 0;lodger burns 1 home 9 to 9 coins 0;price 3\" = 1\n rests 0 1 = 14\n"
+            + "price 4 = 3\n rests 0 1 = 6\n");
     }
 }
