@@ -1,19 +1,14 @@
-import java.util.ArrayList;
-import java.util.List;
 import java.util.Set;
 import java.util.TreeSet;
 
 /**
  * Each promise by runs of calls on a new object, with answers that were worked out from the document: by hand, but
  * for those of span, which a script of a few lines told. Where the program first answered otherwise, the row was
- * worked out anew before it was changed.
- * A row is a call, its numbers, and behind = what it answers (or IOOBE, IAE, ISE, NSEE, UOE, what it throws).
- * A text in quotes is told by feed and end ahead of its call; so are bytes in brackets.
+ * worked out anew before it was changed. What a row is stands in Rows.
  */
 public final class PromiseTest {
     private static final Set<Integer> SEEN = new TreeSet<>();
-    private static int wrong = 0;
-    private static int rows = 0;
+    private static final Rows ROWS = new Rows();
 
     public static void main(String[] args) {
         tapeAndTexts();
@@ -35,91 +30,22 @@ public final class PromiseTest {
         edgesOfTicks();
         edgesOfSets();
         for (int promise = 1; promise <= 64; promise++) {
-            if (!SEEN.contains(promise)) {
-                wrong++;
-                System.out.println("promise " + promise + " has no test");
-            }
+            ROWS.must(SEEN.contains(promise), "promise " + promise + " has no test");
         }
-        System.out.println(rows + " answers held against the document, " + wrong + " are wrong");
-        if (wrong != 0) {
-            System.exit(1);
-        }
+        ROWS.close();
     }
 
-    /** A run on a new object. */
     private static void run(int promise, String text) {
         SEEN.add(promise);
-        Face face = new Face();
-        for (String line : text.split("\n")) {
-            if (!line.isBlank()) {
-                row(promise, face, line.strip());
-            }
-        }
+        ROWS.run("promise " + promise, text);
     }
 
-    private static void row(int promise, Face face, String line) {
-        int equals = line.lastIndexOf('=');
-        String want = line.substring(equals + 1).strip();
-        String call = line.substring(0, equals).strip();
-        int told = Math.max(call.indexOf('"'), call.indexOf('['));
-        if (told >= 0) {
-            tell(face, call.charAt(told) == '"' ? quoted(call, told) : bracketed(call, told));
-            call = call.substring(0, told).strip();
-        }
-        List<String> words = new ArrayList<>(List.of(call.split(" +")));
-        String name = words.remove(0);
-        int[] numbers = words.stream().mapToInt(Integer::parseInt).toArray();
-        String got = face.call(name, numbers);
-        rows++;
-        if (!got.equals(spelt(want))) {
-            wrong++;
-            System.out.println("promise " + promise + ": " + line + ": answered " + got);
-        }
-    }
-
-    private static String spelt(String want) {
-        switch (want) {
-            case "IOOBE": return "throws.IndexOutOfBoundsException";
-            case "IAE": return "throws.IllegalArgumentException";
-            case "ISE": return "throws.IllegalStateException";
-            case "NSEE": return "throws.NoSuchElementException";
-            case "UOE": return "throws.UnsupportedOperationException";
-            default: return want;
-        }
-    }
-
-    private static byte[] quoted(String call, int told) {
-        return Face.bytes(call.substring(told + 1, call.lastIndexOf('"')));
-    }
-
-    private static byte[] bracketed(String call, int told) {
-        String within = call.substring(told + 1, call.lastIndexOf(']')).strip();
-        String[] numbers = within.isEmpty() ? new String[0] : within.split(" +");
-        byte[] bytes = new byte[numbers.length];
-        for (int i = 0; i < bytes.length; i++) {
-            bytes[i] = (byte) Integer.parseInt(numbers[i]);
-        }
-        return bytes;
-    }
-
-    private static void tell(Face face, byte[] bytes) {
-        face.call("end", 0);
-        for (int[] five : Face.feeds(bytes)) {
-            face.call("feed", five);
-        }
-        if (!face.call("end", bytes.length).equals("1")) {
-            throw new IllegalStateException("the text does not fit on the TAPE");
-        }
-    }
-
-    /** A row so many times. */
     private static String times(int n, String row) {
-        return (row + "\n").repeat(n);
+        return Rows.times(n, row);
     }
 
-    // A lodger who is always there.
     private static String lodger(String rest) {
-        return "lodger burns 1 home 0 to 47 " + rest;
+        return Rows.lodger(rest);
     }
 
     // ---------------------------------------------------------------- promises 1 to 6
