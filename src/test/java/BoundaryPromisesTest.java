@@ -223,6 +223,8 @@ public final class BoundaryPromisesTest {
             houses("lodger burns 9 home 47 to 0 coins 0;tick 47;price 9") + "coins 1 = 1\n coins 2 = 2\n coins 48 = 2\n house \"tick 1\" = 2\n coins 46 = 0\n coins 47 = 1\n coins 48 = 2\n");
         edge(27, "EASE; NONE. IllegalArgumentException: N is none (0 to 48).",
             noSuchNumber("ease", 0, 48, "") + "ease 0 = 0\n ease 48 = 0\n",
+            // 99 are enough, 100 would be
+            houses("lodger burns 4 home 0 to 47 coins 0 bears 0;gas 1;price 1") + "ease 25 = 99\n house \"gas 0\" = 2\n ease 25 = -1\n ease 24 = 96\n",
             houses("lodger burns 9 home 0 to 47 coins 0 bears 0;price 1") + "ease 0 = 0\n ease 1 = 9\n ease 11 = 99\n ease 12 = -1\n ease 48 = -1\n price 99 = 1\n ease 48 = 5\n ease 11 = 1\n"
             + "ease 12 = 2\n count 5 = 0\n");
     }

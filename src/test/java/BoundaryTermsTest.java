@@ -84,6 +84,7 @@ public final class BoundaryTermsTest {
         edge("TICKS 0 to 47 of a night, TICK 0 at first, NIGHT 0 to 9999 (0 at first).",
             "count 3 = 0\n count 4 = 0\n needs 0 = 0\n needs 47 = 0\n needs 48 = IOOBE\n needs -1 = IOOBE\n",
             houses("tick 47") + "count 3 = 47\n ticks 1 = 0\n count 3 = 0\n count 4 = 1\n" + faults("house", "tick 48", 5),
+            houses("tick 47", "tick 0") + "count 3 = 0\n",
             houses("night 999") + times(506, "ticks 96 = 0") + "count 4 = 2011\n count 3 = 0\n");
         edge("LODGERS (at most 7, numbered from 0 on)",
             "count 0 = 0\n lodger 0 0 = IOOBE\n" + houses(SEVEN) + "count 0 = 7\n lodger 0 0 = 9\n lodger 6 0 = 9\n lodger 7 0 = IOOBE\n"
@@ -111,7 +112,7 @@ public final class BoundaryTermsTest {
             isHome 3 0 = 1
             isHome 4 0 = 1
             isHome 4 47 = 1
-            """);
+            """ + faults("house", "lodger burns 1 home 48 to 0 coins 0", 20, "lodger burns 1 home 0 to 48 coins 0", 25));
         edge("BEARS 0 to 20 (3 at first)",
             houses(lodger("coins 0;") + lodger("coins 0 bears 0;") + lodger("coins 0 bears 20")) + """
             lodger 0 3 = 3
@@ -200,7 +201,8 @@ public final class BoundaryTermsTest {
             houses(ONE + ";" + ONE + " bears 1;" + ONE + " waits 1;" + ONE + " bears 4 waits 5") + "lodger 0 3 = 3\n lodger 0 4 = 2\n"
             + "lodger 1 3 = 1\n lodger 1 4 = 2\n lodger 2 3 = 3\n lodger 2 4 = 1\n lodger 3 3 = 4\n lodger 3 4 = 5\n",
             faults("house", ONE + " waits 1 bears 1", 43, ONE + " bears 1 bears 1", 43, ONE + " waits 1 waits 1", 43, ONE + " bears", 40,
-                ONE + " gas 1", 35, "lodger home 0 to 0", 7, "gas 1 price 1", 6, "gas 1;price", 11, "owes", 4));
+                ONE + " gas 1", 35, "lodger home 0 to 0", 7, "gas 1 price 1", 6, "gas 1;price", 11, "owes", 4),
+            houses(ONE + ";" + ONE) + faults("house", "owes 0", 6, "owes 0;gas 1", 6, "owes 0 1", 8, "owes 0 1;gas 1", 8) + "count 1 = 1\n");
         edge("(H: a LODGER that there is by then;",
             faults("house", "owes 0 1 5", 5, ONE + ";owes 0 1 5", 42, ONE + ";owes 0 1 5;" + ONE, 42, ONE + ";owes 1 0 5;" + ONE, 40)
             + houses(ONE + ";" + ONE + ";owes 0 1 5", "owes 1 0 6") + "owes 0 1 = 5\n owes 1 0 = 6\n",
@@ -232,9 +234,14 @@ public final class BoundaryTermsTest {
             houses(ONE) + "law \"turn 1 if 1<1;turn 2 if 1>1;turn 4 if 1<2;turn 8 if 2>1;turn 16 if lodger+fed+chill+dark+tick<1\" = 5\n"
             + "lodger 0 9 = 28\n law \"turn 1 if burns+coins>0;turn 2 if burns+coins>1;turn 4 if 0<burns and 0<coins or not(last or cold)\" = 3\n"
             + "lodger 0 9 = 5\n",
+            // of the second one: lodger 1, burns 9, coins 3, fed 2, chill 4, dark 6, tick 10
+            houses("lodger burns 4 home 4 to 5 coins 0;lodger burns 9 home 6 to 47 coins 5 bears 9 waits 20;price 1;tick 4") + "put 1 = 1\n put 1 = 2\n ticks 6 = 6\n"
+            + "law \"turn 1 if lodger>0 and lodger<2;turn 2 if burns>8 and burns<10;turn 4 if coins>2 and coins<4;turn 8 if fed>1 and fed<3;"
+            + "turn 16 if chill>3 and chill<5;turn 32 if dark>5 and dark<7;spare 60 if tick>9 and tick<11\" = 7\n lodger 1 9 = 3\n lodger 0 9 = -28\n",
             faults("law", "refuse if 1", 11, "refuse if 1<", 12, "refuse if 1<2<3", 13, "refuse if 1+<2", 12, "refuse if last<1", 14,
                 "refuse if (1)<2", 12, "refuse if ()", 11, "refuse if (last", 15, "refuse if last)", 14, "refuse if and", 10,
                 "refuse if last and", 18, "refuse if last or", 17, "refuse if not", 13, "refuse if bears<1", 10));
+        edge("C: ALL { or ALL };", ofFour("or"), ofFour("and"));
         edge("All numbers are of 1 to 3 digits (N 0 to 60).",
             houses(ONE) + "law \"turn 60;turn 0\" = 2\n lodger 0 9 = 60\n law \"spare 060\" = 1\n lodger 0 9 = -60\n"
             + "law \"turn 1 if 999>998;turn 2 if 000<001;turn 4 if 999+999>1\" = 3\n lodger 0 9 = 7\n"
@@ -250,13 +257,28 @@ public final class BoundaryTermsTest {
             + "law \"" + "spare 60;".repeat(11) + "spare 60\" = 12\n lodger 0 9 = -720\n law \"turn 5;spare 6;spare 7 if 2<1\" = 3\n lodger 0 9 = -1\n");
         edge("REFUSES: whether some refuse LINE holds.",
             houses(ONE) + "lodger 0 10 = 0\n law \"refuse if 1<0;refuse if 2<0\" = 2\n lodger 0 10 = 0\n law \"refuse if 1<0;refuse\" = 2\n"
-            + "lodger 0 10 = 1\n law \"refuse;refuse if 1<0\" = 2\n lodger 0 10 = 1\n law \"turn 1\" = 1\n lodger 0 10 = 0\n");
+            + "lodger 0 10 = 1\n law \"refuse;refuse if 1<0\" = 2\n lodger 0 10 = 1\n law \"turn 1\" = 1\n lodger 0 10 = 0\n",
+            houses(ONE + ";" + ONE) + "law \"turn 1;refuse if lodger<1\" = 2\n lodger 0 10 = 1\n lodger 1 10 = 0\n lodger 0 10 = 1\n law \"turn 1\" = 1\n lodger 0 10 = 0\n");
+    }
+
+    /** Four ATOMS, each of which may hold or not: whether all together hold. */
+    private static String ofFour(String word) {
+        StringBuilder rows = new StringBuilder(houses(ONE));
+        for (int bits = 0; bits < 16; bits++) {
+            StringBuilder text = new StringBuilder("turn 1 if");
+            for (int i = 0; i < 4; i++) {
+                text.append(i == 0 ? " " : word).append((bits >> i & 1) != 0 ? " 1<2 " : " 2<1 ");
+            }
+            boolean holds = word.equals("or") ? bits != 0 : bits == 15;
+            rows.append("law \"").append(text).append("\" = 1\nlodger 0 9 = ").append(holds ? 1 : 0).append("\n");
+        }
+        return rows.toString();
     }
 
     private static void signs() {
         edge("Words are as long as a to z go on; between all there may be blanks (32), also ahead and behind.",
             houses("gas5", "   gas   6   ", "lodger burns1home2to3coins4bears5waits6;gas7;price8") + "count 5 = 7\n count 6 = 8\n lodger 0 4 = 6\n"
-            + faults("house", "gasp 5", 0, "ga s 5", 0, "Gas 5", 0, "gAs 5", 0, "gas{5", 3, "gas`5", 3, "gas 5/", 5, "gas 5:", 5, "gas\t5", 3,
+            + faults("house", "gasp 5", 0, "gasz 5", 0, "gasa 5", 0, "zgas 5", 0, "agas 5", 0, "ga s 5", 0, "Gas 5", 0, "gAs 5", 0, "gas{5", 3, "gas`5", 3, "gas 5/", 5, "gas 5:", 5, "gas\t5", 3,
                 "gas\n5", 3, "gas\0005", 3, "gas\u00a05", 3, "\u00e7 5", 0, "gas 5\u00ff", 5, "lodgerburns 1", 0, "gas 5 0", 6),
             "law \"  turn1if1<2or3<4and(not last)  \" = 1\n" + faults("law", "turn 1 iflast", 7, "turn 1 if lastor cold", 10, "turn 1 if last orcold", 15,
                 "turn 1 if 1 <\t2", 13));
@@ -287,8 +309,9 @@ public final class BoundaryTermsTest {
             houses(SEVEN) + faults("house", "gas 1; lodger burns 0", 7, "lodger", 0, "gas 1;lodger burns 1 home 0 to 0 coins 0;gas 1000", 6),
             // more must come
             faults("house", "gas", 3, "gas   ", 6, "gas 1;", 6, "gas 1;   ", 9, "lodger", 6, "lodger burns 1 home 0 to 0 coins", 32,
-                " ".repeat(397) + "gas", 400)
-            + faults("law", "refuse if", 9, "refuse if (last  ", 17, "turn ", 5, "refuse;", 7),
+                " ".repeat(397) + "gas", 400, ";".repeat(400), 0, "gas" + "0".repeat(397), 3, "gas 1" + " ".repeat(394) + ";", 400)
+            + faults("law", "refuse if", 9, "refuse if (last  ", 17, "turn ", 5, "refuse;", 7,
+                "refuse if 1" + "+1".repeat(194), 399, "refuse if 1" + "+1".repeat(194) + "<", 400),
             // the first of several
             faults("house", "gas 1000;price 0", 4, "gas 1;price 0;x", 12) + faults("law", "turn 61 if 1000", 5, "turn 1 if 1000<9999", 10));
         edge("Of a wrong text nothing stays.",
@@ -343,7 +366,11 @@ public final class BoundaryTermsTest {
             houses("tick 47;night 999") + "ticks 1 = 0\n count 3 = 0\n count 4 = 1000\n ticks 96 = 0\n count 4 = 1002\n");
         edge("AHEAD by N TICKS (0 to 96): as so many TICKS without frost (no DRAWS).",
             houses(lodger("coins 1 bears 0 waits 0;gas 95;frost 100")) + "after 0 0 1 = 0\n after 0 95 1 = 0\n after 0 96 1 = 1\n after 0 97 1 = IAE\n"
-            + "after 0 -1 1 = IAE\n lasts = 96\n seed 1 = 1\n");
+            + "after 0 -1 1 = IAE\n lasts = 96\n seed 1 = 1\n",
+            // all that goes AHEAD goes without frost
+            houses(lodger("coins 9 bears 0 waits 0;gas 96;frost 100")) + "lasts = -1\n out = -1\n feeder = -1\n shiver = -1\n house \"gas 48\" = 2\n coins 48 = 0\n ease 48 = 0\n"
+            + "grief 0 0 = 0\n lodger 0 13 = 0\n restless = 0\n dear 0 = 1\n dear 1 = 1\n earns 1 = 0\n trial 48 0 = 3\n",
+            houses("lodger burns 9 home 0 to 19 coins 0 bears 9;lodger burns 1 home 20 to 31 coins 0 bears 0;gas 20;frost 100") + "warmer 0 1 = 1\n");
     }
 
     private static void feeding() {
@@ -402,6 +429,9 @@ public final class BoundaryTermsTest {
             // COLD: CHILL of BEARS and 1 alone, and again behind a row of none
             houses(lodger("coins 0 bears 2")) + "ticks 2 = 2\n count 13 = 1\n ticks 1 = 1\n count 13 = 2\n log 0 2 = 2\n ticks 9 = 9\n count 13 = 2\n"
             + "house \"gas 1\" = 2\n ticks 3 = 2\n count 13 = 3\n ticks 1 = 1\n count 13 = 4\n log 0 2 = 2\n",
+            // rows that were undone are told no more, and those that come then stand in their place
+            houses(lodger("coins 9;price 1")) + puts(3, 0, 1) + "undo = 1\n undo = 1\n count 13 = 1\n log 0 4 = 1\n price 5 = 1\n put 0 = 6\n count 13 = 2\n log 0 4 = 6\n log 1 4 = 1\n"
+            + "log 2 4 = -2\n",
             // of one TICK: it went out, somebody was COLD, somebody fed
             houses(lodger("coins 1 bears 0 waits 0")) + "ticks 1 = 1\n count 13 = 3\n log 2 2 = 0\n log 1 2 = 2\n log 0 2 = 1\n");
         edge("NIGHT, TICK (ahead of its being 1 more), 0 to 2, the LODGER (none of 0), GAS then.",
@@ -453,6 +483,7 @@ public final class BoundaryTermsTest {
         edge("COINS for N TICKS (0 to 48): the fewest COINS put in at once now by which it is LIT in all of these (nobody else feeding).",
             "coins 48 = 0\n" + houses(lodger("coins 9 waits 0;price 3;gas 2")) + "coins 0 = 0\n coins 2 = 0\n coins 3 = 1\n coins 5 = 1\n coins 6 = 2\n"
             + "coins 48 = 16\n coins 49 = IAE\n coins -1 = IAE\n",
+            houses(lodger("coins 0;price 3;gas 999")) + "coins 48 = 0\n coins 0 = 0\n",
             houses(SEVEN, "price 1") + "coins 1 = 63\n coins 48 = 3024\n price 99 = 1\n coins 48 = 31\n");
         edge("EASE of N TICKS: the fewest COINS (0 to 99) put in at once now by which nobody is more COLD behind N TICKS AHEAD than now"
             + " (others feeding as they do); none.",
@@ -467,16 +498,22 @@ public final class BoundaryTermsTest {
             + " COINS it fed in these, together.",
             houses(lodger("coins 2 bears 0 waits 5;price 3;gas 2")) + "grief 0 0 = 46\n grief 0 19 = 46\n grief 0 20 = 48\n grief 0 21 = IAE\n grief 0 -1 = IAE\n"
             + "lodger 0 4 = 5\n",
+            // what was fed ahead of these does not count
+            houses("lodger burns 1 home 0 to 0 coins 9 bears 20 waits 0;price 1") + "grief 0 0 = 3\n put 0 = 1\n grief 0 0 = 0\n",
             // COLD ends at 999.
             houses(lodger("coins 0 bears 0")) + "grief 0 0 = 48\n" + times(9, "ticks 96 = 96") + "ticks 87 = 87\n grief 0 0 = 48\n ticks 1 = 1\n"
             + "grief 0 0 = 47\n ticks 46 = 46\n grief 0 0 = 1\n ticks 1 = 1\n grief 0 0 = 0\n");
         edge("BEST of a LODGER: the W of the least GRIEF (of several the least).",
             houses(lodger("coins 0 bears 0 waits 9")) + "lodger 0 13 = 0\n",
+            houses("lodger burns 1 home 0 to 0 coins 9 bears 20 waits 0") + "lodger 0 13 = 1\n grief 0 0 = 3\n grief 0 1 = 0\n grief 0 2 = 0\n",
             houses("lodger burns 1 home 0 to 19 coins 9 bears 20 waits 0;price 1") + "lodger 0 13 = 20\n grief 0 19 = 3\n grief 0 20 = 0\n",
             houses(lodger("coins 9 bears 20 waits 0;price 1")) + "lodger 0 13 = 15\n grief 0 14 = 9\n grief 0 15 = 6\n grief 0 16 = 6\n");
         edge("RESTLESS: LODGERS whose GRIEF by their own WAITS is more than by their BEST, as bits.",
             "restless = 0\n" + houses(lodger("coins 2 bears 0 waits 20;price 3;gas 2")) + "restless = 1\n waits 0 19 = 20\n restless = 0\n waits 0 0 = 19\n"
             + "restless = 0\n",
+            // by 0 alone one has less
+            houses(lodger("coins 1 bears 0 waits 1;price 99")) + "restless = 1\n waits 0 0 = 1\n restless = 0\n",
+            houses("lodger burns 9 home 0 to 0 coins 9 bears 20 waits 0;lodger burns 9 home 1 to 1 coins 9 bears 20 waits 0;price 1") + "restless = 3\n waits 0 1 = 0\n restless = 2\n",
             houses("lodger burns 1 home 0 to 19 coins 9 bears 20 waits 19;price 1") + "restless = 1\n waits 0 20 = 19\n restless = 0\n");
         String two = houses(lodger("coins 5 bears 0 waits 0;") + lodger("coins 5 bears 0 waits 2;price 10"));
         String late = houses("lodger burns 1 home 0 to 47 coins 1 waits 9;lodger burns 1 home 10 to 14 coins 0 bears 0;price 10");
@@ -556,6 +593,9 @@ public final class BoundaryTermsTest {
             "pairs -1 = 0\n" + houses(ONE) + "pairs -1 = 0\n pairs 0 = -1\n house \"" + ONE + "\" = 2\n pairs -1 = 1\n pairs 0 = 1\n pairs 1 = 0\n"
             + "house \"" + ONE + "\" = 3\n pairs -1 = 1\n pairs 0 = -1\n pairs 1 = 2\n pairs 2 = 1\n house \"" + ONE + "\" = 4\n pairs -1 = 2\n pairs 0 = 1\n"
             + "pairs 2 = 3\n home 3 47 47 = 1\n pairs -1 = 1\n pairs 0 = -1\n pairs 3 = -1\n",
+            // 9 and 1 are more than 5; two who are never there together are no pair
+            houses("lodger burns 1 home 0 to 9 coins 0;lodger burns 1 home 5 to 14 coins 0;lodger burns 1 home 14 to 14 coins 0;lodger burns 1 home 0 to 8 coins 0")
+            + "pairs -1 = 10\n pairs 0 = 3\n pairs 1 = 2\n home 2 20 20 = 1\n pairs -1 = 9\n pairs 0 = 3\n pairs 1 = -1\n pairs 2 = -1\n",
             houses(SEVEN) + "pairs -1 = 144\n pairs 0 = -1\n pairs 1 = 2\n pairs 6 = 5\n pairs 7 = IOOBE\n");
         edge("KEEPERS: the fewest LODGERS so that at each TICK at which somebody is at HOME one of these is: of several the least as bits.",
             "keepers = 0\n" + houses(SEVEN) + "keepers = 1\n",
@@ -574,9 +614,10 @@ public final class BoundaryTermsTest {
             houses(SEVEN.replace("coins 0", "coins 1")) + "put 6 = 20\n swings 6 = 64\n swings 0 = 0\n");
         edge("MINIMAL: how many sets carry it of which none would without any one of it.",
             "minimal = 0\n" + two + "minimal = 0\n put 0 = 1\n minimal = 1\n put 1 = 2\n minimal = 1\n",
+            two + "put 1 = 1\n minimal = 1\n",
             houses(lodger("coins 5;") + lodger("coins 5;") + lodger("coins 5")) + "put 0 = 20\n put 1 = 40\n put 2 = 60\n minimal = 3\n");
         edge("DUMMIES: who SWINGS in none, as bits.",
-            "dummies = 0\n" + two + "dummies = 3\n put 0 = 1\n dummies = 2\n put 1 = 2\n dummies = 0\n");
+            "dummies = 0\n" + two + "dummies = 3\n put 0 = 1\n dummies = 2\n put 1 = 2\n dummies = 0\n", two + "put 1 = 1\n dummies = 1\n");
     }
 
     private static void debts() {
@@ -625,7 +666,7 @@ public final class BoundaryTermsTest {
 
     private static void counts() {
         edge("BUSY: the TICK of the greatest NEEDS (of several the least).",
-            "busy = 0\n" + houses("lodger burns 1 home 47 to 47 coins 0") + "busy = 47\n home 0 46 47 = 2\n busy = 46\n home 0 47 0 = 2\n busy = 0\n");
+            "busy = 0\n" + houses("lodger burns 1 home 47 to 47 coins 0") + "home 0 1 1 = 1\n busy = 1\n home 0 47 47 = 1\n busy = 47\n home 0 46 47 = 2\n busy = 46\n home 0 47 0 = 2\n busy = 0\n");
         edge("EMPTY: TICKS 0 to 47 at which nobody is at HOME: how many.",
             "alone = 48\n" + houses(ONE) + "alone = 47\n home 0 47 47 = 1\n alone = 47\n home 0 0 46 = 47\n alone = 1\n home 0 1 0 = 48\n alone = 0\n");
         edge("MISER: of those at HOME who have a COIN the one who WAITS the longest (of several the least; none).",
@@ -672,6 +713,46 @@ public final class BoundaryTermsTest {
             // an ACT that changes nothing is one; so is one behind another that was undone
             "empty = 0\n price 20 = 20\n count 14 = 2\n undo = 1\n price 5 = 20\n undo = 1\n count 6 = 20\n undo = 1\n undo = 0\n",
             "ticks 96 = 0\n count 14 = 1\n undo = 1\n count 4 = 0\n seed 1 = 1\n undo = 0\n",
+            // each of the nine
+            houses(lodger("coins 9;") + "lodger burns 4 home 0 to 47 coins 9;owes 0 1 5") + """
+            ticks 1 = 1
+            put 0 = 20
+            lend 0 1 = 7
+            repay 0 1 = 5
+            waits 0 5 = 2
+            price 7 = 20
+            change 0 1 = 4
+            home 0 1 2 = 2
+            empty = 1
+            count 14 = 9
+            undo = 1
+            count 9 = 1
+            lodger 0 2 = 2
+            undo = 1
+            lodger 0 2 = 47
+            lodger 0 0 = 4
+            undo = 1
+            lodger 0 0 = 1
+            count 6 = 7
+            undo = 1
+            count 6 = 20
+            lodger 0 4 = 5
+            undo = 1
+            lodger 0 4 = 2
+            owes 0 1 = 0
+            undo = 1
+            owes 0 1 = 5
+            owes 1 0 = 1
+            undo = 1
+            owes 1 0 = 0
+            lodger 0 8 = 1
+            undo = 1
+            lodger 0 8 = 0
+            count 3 = 1
+            undo = 1
+            count 3 = 0
+            undo = 0
+            """,
             houses(lodger("coins 9 bears 0 waits 0;price 1")) + "ticks 9 = 5\n undo = 1\n count 3 = 0\n count 5 = 0\n count 7 = 0\n count 9 = 0\n count 10 = -1\n"
             + "count 11 = 0\n count 12 = 9\n count 13 = 0\n lodger 0 6 = 0\n lodger 0 8 = 0\n",
             // the TAPE, fault() and THE IMAGE stay
