@@ -9,14 +9,11 @@ import java.util.regex.Matcher;
 import java.util.regex.Pattern;
 
 /**
- * Sentences of the document that name a boundary case, each with runs of its own. A sentence that does not stand in
- * the document, and a place of the document that names a boundary but is in none of these sentences, are wrong.
+ * Sentences of the document, each with runs of its own, those at its boundaries first of all. A sentence that does not
+ * stand in the document, and a word of the document that is in none of these sentences, are wrong.
  */
 final class Boundaries {
-    /** Words by which the document names a boundary. */
-    private static final Pattern MARKS = Pattern.compile("\\d+ to \\d+|at most|at least|\\bnone\\b|\\bNONE\\b|of several"
-        + "|\\bwithout\\b|rounded down|\\bbelow\\b|\\babove\\b|fewer\\b|\\btoo\\b|Exception:|at first|false,|goes round"
-        + "|nobody|nothing|\\bempty\\b|\\balone\\b|\\bwrong\\b|remembered|the least\\b|the latest|\\bround\\b");
+    private static final Pattern WORD = Pattern.compile("[A-Za-z0-9]+");
 
     private final Rows rows = new Rows();
     private final Map<String, String> sections = new LinkedHashMap<>();
@@ -26,8 +23,8 @@ final class Boundaries {
         Path doc = Path.of(System.getProperty("project", "."), "..", "shared", "DOC.md");
         for (String section : Files.readString(doc, StandardCharsets.UTF_8).split("(?m)^## ")) {
             String heading = section.split("[:\n]")[0].strip();
-            String said = section.substring(section.indexOf('\n') + 1).replaceAll("\\s+", " ");
-            // Some calls bear names that would be boundaries elsewhere: empty, alone.
+            // Not said: what the page is set by, and a call's declaration, which LanguageTest holds against the face.
+            String said = section.substring(section.indexOf('\n') + 1).replaceAll("```(text)?|==== \\d\\.", "").replaceAll("\\s+", " ");
             sections.put(heading, said.replaceFirst("^ ?`[^`]*`: ", ""));
         }
     }
@@ -46,7 +43,7 @@ final class Boundaries {
         }
     }
 
-    /** Ends the test: all that the sections name must have been told of by a sentence. */
+    /** Ends the test: all that the sections say must stand in a sentence that was told. */
     void close(Pattern headings) {
         for (Map.Entry<String, String> section : sections.entrySet()) {
             if (!headings.matcher(section.getKey()).matches()) {
@@ -54,12 +51,12 @@ final class Boundaries {
             }
             BitSet told = covered.getOrDefault(section.getKey(), new BitSet());
             rows.must(!told.isEmpty(), section.getKey() + " has no run at all");
-            Matcher mark = MARKS.matcher(section.getValue());
-            while (mark.find()) {
-                String text = section.getValue();
-                int behind = Math.min(text.length(), mark.end() + 30);
-                rows.must(told.get(mark.start()) && told.get(mark.end() - 1), section.getKey() + " has no run for: .. "
-                    + text.substring(Math.max(0, mark.start() - 40), behind) + " ..");
+            String text = section.getValue();
+            Matcher word = WORD.matcher(text);
+            while (word.find()) {
+                boolean isTold = told.nextClearBit(word.start()) >= word.end();
+                rows.must(isTold, section.getKey() + " has no run for: .. "
+                    + text.substring(Math.max(0, word.start() - 40), Math.min(text.length(), word.end() + 30)) + " ..");
             }
         }
         rows.close();

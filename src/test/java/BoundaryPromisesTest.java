@@ -1,7 +1,7 @@
 import java.io.IOException;
 import java.util.regex.Pattern;
 
-/** Each promise at its boundaries, in the document's order: what its own sentences name, each with runs of its own. */
+/** Each promise in its own sentences, all of them, with runs at the boundaries that they name. */
 public final class BoundaryPromisesTest {
     private static Boundaries all;
 
@@ -12,6 +12,9 @@ public final class BoundaryPromisesTest {
     private static final String ONE = "lodger burns 1 home 0 to 0 coins 0";
     private static final String SEVEN = "lodger burns 9 home 0 to 47 coins 0" + ";lodger burns 9 home 0 to 47 coins 0".repeat(6);
     private static final String TWO = Rows.houses(ONE + ";" + ONE);
+    // Two of whom much is known: five TICKS in the dark, and then three COINS; the first one's TURN is 7.
+    private static final String KNOWN = Rows.houses("lodger burns 3 home 5 to 20 coins 9 bears 4 waits 3;lodger burns 1 home 0 to 47 coins 2 bears 0 waits 20;tick 6;night 12;frost 33")
+        + "law \"turn 7 if lodger<1;refuse if coins>7\" = 2\n lodger 0 10 = 1\n lodger 1 10 = 0\n ticks 5 = 5\n put 0 = 20\n put 1 = 40\n put 0 = 60\n";
     private static final String TWELVE = Rows.houses("", "", "", "", "", "", "", "", "", "", "", "");
 
     public static void main(String[] args) throws IOException {
@@ -138,7 +141,15 @@ public final class BoundaryPromisesTest {
         for (int i = 0; i < due.length; i++) {
             fresh.append("lodger 1 ").append(i).append(" = ").append(due[i]).append("\n");
         }
-        edge(7, "13 BEST. NoSuchElementException: another what.",
+        // By WAITS below 18 the first one would feed, by 18 and more it is COLD twice.
+        int[] known = {3, 5, 20, 4, 3, 7, 5, 1, 2, 7, 0, 66, 48, 18};
+        StringBuilder rows = new StringBuilder(KNOWN);
+        for (int i = 0; i < known.length; i++) {
+            rows.append("lodger 0 ").append(i).append(" = ").append(known[i]).append("\n");
+        }
+        edge(7, "Of a LODGER what 0 BURNS, 1, 2 the first and the last TICK of HOME, 3 BEARS, 4 WAITS, 5 COINS, 6 CHILL, 7 COLD, 8 FED, 9 TURN now, 10 1 if it REFUSES now,"
+            + " 11 SHARE, 12 METERED, 13 BEST. NoSuchElementException: another what.",
+            rows.toString(), KNOWN + "lodger 1 11 = 33\n lodger 1 9 = 0\n lodger 1 7 = 5\n lodger 1 12 = 48\n law \"refuse\" = 1\n lodger 0 10 = 1\n lodger 0 9 = 0\n",
             TWO + fresh + "lodger 1 14 = NSEE\n lodger 1 -1 = NSEE\n lodger 1 " + LEAST + " = NSEE\n lodger 1 " + GREATEST + " = NSEE\n" + noSuchLodger("lodger", " 0")
             + noSuchLodger("lodger", " 14"));
         edge(8, "What the first one OWES the other one. IllegalArgumentException: both are one.",
@@ -271,17 +282,17 @@ public final class BoundaryPromisesTest {
     private static void clues() {
         String notThat = "CALL [0] = IAE\n end 1 = 0\n CALL [0 1 0] = IAE\n CALL [48 1] = IAE\n CALL [0 MORE] = IAE\n CALL [0 1 48 0] = IAE\n CALL [0 1 0 MORE] = IAE\n CALL [255 1] = IAE\n"
             + "CALL [0 255] = IAE\n CALL [128 0] = IAE\n CALL [" + "0 1 ".repeat(20) + "0] = IAE\n CALL [" + "0 1 ".repeat(21) + "] = IAE\n end 1 = 0\n CALL [" + "0 1 ".repeat(200) + "] = IAE\n fault = -1\n";
-        edge(36, "CULPRIT (of each two bytes: the TICK, 1 or 0; at most 40 bytes): how many pairs (who false), or WHO, as bits. IllegalArgumentException: the TAPE is not that"
+        edge(36, "Uses the TAPE up: CULPRIT (of each two bytes: the TICK, 1 or 0; at most 40 bytes): how many pairs (who false), or WHO, as bits. IllegalArgumentException: the TAPE is not that"
             + " (none may be told).",
             TWO + notThat.replace("CALL", "culprit 0").replace("MORE", "2") + notThat.replace("CALL", "culprit 1").replace("MORE", "2"),
             TWO + "culprit 0 [] = 2\n culprit 1 [] = 3\n culprit 0 [0 1] = 2\n culprit 1 [0 0] = 0\n culprit 0 [" + "0 1 ".repeat(20) + "] = 2\n end 1 = 0\n culprit 1 [" + "0 1 ".repeat(19)
             + "0 0] = 0\n culprit 0 [] = 2\n",
             houses(SEVEN) + "culprit 0 [] = 336\n culprit 1 [] = 127\n culprit 0 [47 1] = 336\n culprit 0 [47 0] = 0\n culprit 0 [0 1] = 7\n culprit 0 [46 0] = 7\n");
-        edge(37, "ASK (the TAPE likewise); NONE. IllegalArgumentException: the TAPE is not that.",
+        edge(37, "Uses the TAPE up: ASK (the TAPE likewise); NONE. IllegalArgumentException: the TAPE is not that.",
             TWO + notThat.replace("CALL", "ask").replace("MORE", "2"),
             "ask [] = -1\n ask [47 1] = -1\n" + TWO + "ask [] = 0\n ask [0 0] = -1\n end 1 = 0\n home 0 47 47 = 1\n ask [] = 0\n ask [0 1] = -1\n ask [47 1] = 0\n ask [" + "46 0 ".repeat(20) + "] = -1\n",
             houses(SEVEN) + "ask [] = 23\n ask [0 0] = 23\n ask [1 0] = 24\n ask [45 0] = 46\n ask [46 0] = 0\n");
-        edge(38, "DRAWN (of each two bytes: the TICK, how much; at most 40 bytes) what 0 how many sets, 1 SURE, as bits, 2 FEWEST, as bits (NONE). IllegalArgumentException: the TAPE is"
+        edge(38, "Uses the TAPE up: DRAWN (of each two bytes: the TICK, how much; at most 40 bytes) what 0 how many sets, 1 SURE, as bits, 2 FEWEST, as bits (NONE). IllegalArgumentException: the TAPE is"
             + " not that (none may be told); NoSuchElementException: another what.",
             TWO + notThat.replace("CALL", "drawn 0").replace("MORE", "64") + notThat.replace("CALL", "drawn 3").replace("MORE", "64"),
             TWO + "drawn 3 [] = NSEE\n drawn -1 [0 1] = NSEE\n end 1 = 0\n drawn " + LEAST + " [] = NSEE\n drawn " + GREATEST + " [] = NSEE\n drawn 0 [] = 4\n drawn 1 [] = 0\n drawn 2 [] = 0\n"
@@ -333,7 +344,14 @@ public final class BoundaryPromisesTest {
         edge(53, "EMPTY.", "alone = 48\n" + TWO + "alone = 47\n home 1 47 47 = 1\n alone = 46\n home 1 1 47 = 47\n alone = 0\n");
         edge(54, "MISER; NONE.", "miser = -1\n" + TWO + "miser = -1\n", houses(lodger("coins 1 waits 0;") + lodger("coins 1 waits 0")) + "miser = 0\n waits 1 20 = 0\n miser = 1\n waits 0 20 = 0\n miser = 0\n");
         edge(55, "ALIKE.", "alike = 0\n" + houses(ONE) + "alike = 0\n house \"" + ONE + "\" = 2\n alike = 1\n waits 0 20 = 2\n alike = 0\n", houses(SEVEN) + "alike = 21\n");
-        edge(64, "2 LINES of THE LAW (NONE without one), 3 TICK, 4 NIGHT, 5 GAS, 6 PRICE, 7 DARK, 8 FROST, 9 BOX, 10 who fed the last (NONE),",
+        int[] known = {2, 1, 2, 11, 12, 60, 20, 5, 33, 3, 0, 6, 8, 6, 4};
+        StringBuilder rows = new StringBuilder(KNOWN);
+        for (int i = 0; i < known.length; i++) {
+            rows.append("count ").append(i).append(" = ").append(known[i]).append("\n");
+        }
+        edge(64, "0 LODGERS, 1 texts of THE HOUSE, 2 LINES of THE LAW (NONE without one), 3 TICK, 4 NIGHT, 5 GAS, 6 PRICE, 7 DARK, 8 FROST, 9 BOX, 10 who fed the last (NONE),"
+            + " 11 COLD of all together, 12 COINS of all together, 13 rows of THE LOG,",
+            rows.toString(),
             "count 2 = -1\n count 10 = -1\n law \"\" = 0\n count 2 = 0\n" + houses(lodger("coins 1;") + lodger("coins 1")) + "put 0 = 20\n count 10 = 0\n put 1 = 40\n count 10 = 1\n undo = 1\n"
             + "count 10 = 0\n undo = 1\n count 10 = -1\n",
             "image = 0\n law \"refuse\" = 1\n count 2 = 1\n back = 1\n count 2 = -1\n");

@@ -1,7 +1,7 @@
 import java.io.IOException;
 import java.util.regex.Pattern;
 
-/** The sentences under "Terms" that name a boundary case, in their order, each with runs of its own. */
+/** The sentences under "Terms", in their order, each with runs of its own, at its boundaries first of all. */
 public final class BoundaryTermsTest {
     private static Boundaries all;
 
@@ -168,7 +168,7 @@ public final class BoundaryTermsTest {
     }
 
     private static void meter() {
-        edge("GAS 0 to 9999 (0 at first)",
+        edge("METER: GAS 0 to 9999 (0 at first)",
             "count 5 = 0\n" + houses(lodger("coins 99;price 99;gas 999")) + puts(90, 999, 99)
             + "put 0 = 9999\n put 0 = 9999\n ticks 1 = 0\n count 5 = 9998\n lodger 0 5 = 7\n count 9 = 92\n");
         edge("PRICE 1 to 99 (20 at first): how much GAS a COIN buys",
@@ -246,7 +246,7 @@ public final class BoundaryTermsTest {
             houses(ONE) + "law \"turn 60;turn 0\" = 2\n lodger 0 9 = 60\n law \"spare 060\" = 1\n lodger 0 9 = -60\n"
             + "law \"turn 1 if 999>998;turn 2 if 000<001;turn 4 if 999+999>1\" = 3\n lodger 0 9 = 7\n"
             + faults("law", "turn 61", 5, "spare 61", 6, "turn 0060", 5, "turn 1 if 1000>1", 10, "turn 1 if 1>0001", 12, "turn 1 if 1+0001>1", 12));
-        edge("last: it fed the last (of all; nobody at first); cold: CHILL is above BEARS.",
+        edge("Of a LODGER: last: it fed the last (of all; nobody at first); cold: CHILL is above BEARS.",
             houses("lodger burns 1 home 0 to 47 coins 1 bears 2 waits 9;lodger burns 1 home 9 to 9 coins 1")
             + "law \"turn 1 if last;turn 2 if cold\" = 2\n lodger 0 9 = 0\n lodger 1 9 = 0\n put 1 = 20\n lodger 1 9 = 1\n lodger 0 9 = 0\n"
             + "put 0 = 40\n lodger 1 9 = 0\n lodger 0 9 = 1\n",
@@ -330,7 +330,7 @@ public final class BoundaryTermsTest {
         edge("NEEDS of a TICK: BURNS of all who are at HOME in it, together.",
             "needs 0 = 0\n" + houses(SEVEN) + "needs 0 = 63\n needs 47 = 63\n home 0 9 9 = 1\n needs 8 = 54\n needs 9 = 63\n");
         // The first DRAW is 16838. Seed by seed: see draws().
-        edge("(a) with FROST: if DRAW modulo 100 is below FROST, NEEDS are twice as many (the DRAW always);",
+        edge("A TICK more: (a) with FROST: if DRAW modulo 100 is below FROST, NEEDS are twice as many (the DRAW always);",
             houses(lodger("coins 0;gas 9;frost 38")) + "ticks 1 = 0\n count 5 = 8\n",
             houses(lodger("coins 0;gas 9;frost 39")) + "ticks 1 = 0\n count 5 = 7\n",
             houses(lodger("coins 0;gas 2;frost 100")) + "ticks 1 = 0\n count 5 = 0\n",
@@ -406,7 +406,8 @@ public final class BoundaryTermsTest {
     }
 
     private static void acts() {
-        edge("one feeds now (at HOME or not);",
+        edge("ACTS: TICKS; one feeds now (at HOME or not);",
+            "ticks 2 = 0\n count 3 = 2\n count 14 = 1\n ticks 96 = 0\n count 14 = 2\n",
             houses("lodger burns 1 home 5 to 6 coins 2") + "inside = 0\n put 0 = 20\n house \"tick 5\" = 2\n inside = 1\n put 0 = 40\n put 0 = ISE\n"
             + "lodger 0 8 = 2\n");
         edge("a COIN is lent to another one (COINS move, that one OWES 1 more, 99 at most);",
@@ -416,6 +417,39 @@ public final class BoundaryTermsTest {
             houses(lodger("coins 3;") + lodger("coins 0;owes 0 1 3")) + "repay 0 1 = 3\n owes 0 1 = 0\n lodger 0 5 = 0\n lodger 1 5 = 3\n",
             houses(lodger("coins 3;") + lodger("coins 0;owes 0 1 2")) + "repay 0 1 = 2\n owes 0 1 = 0\n lodger 0 5 = 1\n repay 0 1 = ISE\n",
             houses(lodger("coins 3;") + lodger("coins 0;owes 0 1 4")) + "repay 0 1 = 3\n owes 0 1 = 1\n lodger 0 5 = 0\n repay 0 1 = ISE\n");
+        edge("WAITS are told; PRICE is told; two change rooms (BURNS and BEARS); HOME is told; the BOX is emptied.",
+            houses("lodger burns 2 home 0 to 9 coins 3 bears 4 waits 5;lodger burns 7 home 10 to 20 coins 6 bears 8 waits 9") + """
+            waits 0 1 = 5
+            lodger 0 4 = 1
+            lodger 1 4 = 9
+            price 33 = 20
+            count 6 = 33
+            change 0 1 = 7
+            lodger 0 0 = 7
+            lodger 0 1 = 0
+            lodger 0 2 = 9
+            lodger 0 3 = 8
+            lodger 0 4 = 1
+            lodger 0 5 = 3
+            lodger 1 0 = 2
+            lodger 1 3 = 4
+            lodger 1 5 = 6
+            home 1 40 3 = 12
+            lodger 1 1 = 40
+            lodger 1 2 = 3
+            lodger 0 1 = 0
+            lodger 0 2 = 9
+            put 0 = 33
+            put 1 = 66
+            empty = 2
+            count 9 = 0
+            count 5 = 66
+            lodger 0 8 = 1
+            count 14 = 7
+            """,
+            // CHILL and COLD go with the LODGER, not with the room
+            houses(lodger("coins 0 bears 0;") + "lodger burns 3 home 1 to 1 coins 0 bears 9") + "ticks 1 = 1\n change 0 1 = 3\n lodger 0 3 = 9\n lodger 0 6 = 1\n"
+            + "lodger 0 7 = 1\n lodger 1 3 = 0\n lodger 1 6 = 0\n lodger 1 7 = 0\n");
     }
 
     private static void log() {

@@ -9,11 +9,14 @@ import com.sun.source.tree.LambdaExpressionTree;
 import com.sun.source.tree.MemberReferenceTree;
 import com.sun.source.tree.MethodInvocationTree;
 import com.sun.source.tree.MethodTree;
+import com.sun.source.tree.NewArrayTree;
 import com.sun.source.tree.NewClassTree;
+import com.sun.source.tree.PrimitiveTypeTree;
 import com.sun.source.tree.SynchronizedTree;
 import com.sun.source.tree.ThrowTree;
 import com.sun.source.tree.Tree;
 import com.sun.source.tree.TryTree;
+import com.sun.source.tree.TypeCastTree;
 import com.sun.source.tree.VariableTree;
 import com.sun.source.util.JavacTask;
 import com.sun.source.util.TreePath;
@@ -25,6 +28,9 @@ import java.lang.reflect.Constructor;
 import java.lang.reflect.Field;
 import java.lang.reflect.Method;
 import java.lang.reflect.Modifier;
+import java.nio.charset.StandardCharsets;
+import java.nio.file.Files;
+import java.nio.file.Path;
 import java.util.Arrays;
 import java.util.HashMap;
 import java.util.HashSet;
@@ -33,6 +39,8 @@ import java.util.Map;
 import java.util.Set;
 import java.util.TreeMap;
 import java.util.TreeSet;
+import java.util.regex.Matcher;
+import java.util.regex.Pattern;
 import java.util.stream.Collectors;
 import javax.lang.model.element.Element;
 import javax.lang.model.element.ElementKind;
@@ -43,71 +51,8 @@ import javax.tools.ToolProvider;
 
 /** The face of the document, and those rules of LANGUAGE.md that can be seen in the source. */
 public final class LanguageTest {
-    private static final String FACE = """
-        int feed(int,int,int,int,int)
-        boolean end(int)
-        int house() IllegalArgumentException UnsupportedOperationException
-        int law() IllegalArgumentException
-        int fault()
-        int lodger(int,int) IndexOutOfBoundsException NoSuchElementException
-        int owes(int,int) IndexOutOfBoundsException IllegalArgumentException
-        boolean isHome(int,int) IndexOutOfBoundsException
-        int needs(int) IndexOutOfBoundsException
-        int ticks(int) IllegalArgumentException
-        int put(int) IndexOutOfBoundsException IllegalStateException
-        int lend(int,int) IndexOutOfBoundsException IllegalArgumentException IllegalStateException
-        int repay(int,int) IndexOutOfBoundsException IllegalArgumentException IllegalStateException
-        int waits(int,int) IndexOutOfBoundsException IllegalArgumentException
-        int price(int) IllegalArgumentException
-        int change(int,int) IndexOutOfBoundsException IllegalArgumentException
-        int home(int,int,int) IndexOutOfBoundsException
-        int empty()
-        int inside()
-        int lasts()
-        int out()
-        int feeder()
-        int shiver()
-        int after(int,int,int) IndexOutOfBoundsException IllegalArgumentException NoSuchElementException
-        int coins(int) IllegalArgumentException
-        int ease(int) IllegalArgumentException
-        int grief(int,int) IndexOutOfBoundsException IllegalArgumentException
-        int restless()
-        int saint(int,boolean) IndexOutOfBoundsException
-        int fair(int,int) IndexOutOfBoundsException IllegalArgumentException
-        int tops(int)
-        int stand(int) IndexOutOfBoundsException
-        int dear(boolean)
-        int earns(int) IllegalArgumentException
-        int culprit(boolean) IllegalArgumentException
-        int ask() IllegalArgumentException
-        int drawn(int) IllegalArgumentException NoSuchElementException
-        boolean warmer(int,int) IndexOutOfBoundsException IllegalArgumentException
-        int pairs(int) IndexOutOfBoundsException
-        int keepers()
-        boolean kettle(int)
-        int swings(int) IndexOutOfBoundsException
-        int minimal()
-        int dummies()
-        int net(int,int) IndexOutOfBoundsException IllegalArgumentException
-        int debt()
-        boolean ring(int) IndexOutOfBoundsException
-        int poorest()
-        int rests(int,int) IndexOutOfBoundsException IllegalArgumentException
-        int odds(int,int) IllegalArgumentException
-        int busy()
-        int alone()
-        int miser()
-        int alike()
-        int trial(int,boolean) IllegalArgumentException
-        int span(int,boolean) IllegalArgumentException
-        int led(int,boolean) IndexOutOfBoundsException
-        int log(int,int) NoSuchElementException
-        int seed(int)
-        boolean undo()
-        void image()
-        boolean back()
-        int count(int)
-        """;
+    private static final Pattern METHOD = Pattern.compile("public (int|boolean|void) (\\w+)\\(([^)]*)\\)( throws [^;]*)?;");
+    private static final int METHODS = 63;
     private static final Set<String> EXCEPTIONS = Set.of("IllegalStateException", "IllegalArgumentException",
         "IndexOutOfBoundsException", "ArithmeticException", "UnsupportedOperationException", "NoSuchElementException",
         "RuntimeException");
@@ -141,8 +86,9 @@ public final class LanguageTest {
 
     // ---- the face, as it was compiled ----
 
-    private static void face() {
-        Set<String> due = new TreeSet<>(Arrays.asList(FACE.strip().split("\n")));
+    private static void face() throws IOException {
+        Set<String> due = documentsFace();
+        must(due.size() == METHODS, "the document's face has " + due.size() + " methods");
         Set<String> got = new TreeSet<>();
         for (Method method : StairMeter.class.getDeclaredMethods()) {
             if (Modifier.isPrivate(method.getModifiers()) || method.isSynthetic()) {
@@ -171,6 +117,19 @@ public final class LanguageTest {
             int kind = inside.getModifiers();
             must(Modifier.isStatic(kind) && !Modifier.isPublic(kind) && !Modifier.isProtected(kind), inside + " is static");
         }
+    }
+
+    /** The methods of the document's page: what each answers, its name, what it takes and what it throws. */
+    private static Set<String> documentsFace() throws IOException {
+        String doc = Files.readString(Path.of(System.getProperty("project", "."), "..", "shared", "DOC.md"), StandardCharsets.UTF_8);
+        Set<String> all = new TreeSet<>();
+        Matcher told = METHOD.matcher(doc.substring(doc.indexOf("```java"), doc.indexOf("## Terms")));
+        while (told.find()) {
+            String taken = told.group(3).replaceAll(" \\w+(,|$)", "$1").replace(" ", "");
+            String thrown = told.group(4) == null ? "" : told.group(4).replace(" throws", "").replace(",", "");
+            all.add(told.group(1) + " " + told.group(2) + "(" + taken + ")" + thrown);
+        }
+        return all;
     }
 
     // ---- the source ----
@@ -295,6 +254,7 @@ public final class LanguageTest {
         public Void visitNewClass(NewClassTree tree, Void v) {
             Element element = trees.getElement(getCurrentPath());
             if (isOwn(element)) {
+                must(method.contains("<init>"), "line " + line(tree, false) + ": an object is made, but not with the StairMeter");
                 called((ExecutableElement) element, tree);
             } else {
                 String made = element.getEnclosingElement().getSimpleName().toString();
@@ -302,6 +262,18 @@ public final class LanguageTest {
             }
             must(tree.getClassBody() == null, "line " + line(tree, false) + ": a class without a name");
             return super.visitNewClass(tree, v);
+        }
+
+        @Override
+        public Void visitNewArray(NewArrayTree tree, Void v) {
+            must(method.contains("<init>"), "line " + line(tree, false) + ": rows are made, but not with the StairMeter");
+            return super.visitNewArray(tree, v);
+        }
+
+        @Override
+        public Void visitTypeCast(TypeCastTree tree, Void v) {
+            must(tree.getType() instanceof PrimitiveTypeTree, "line " + line(tree, false) + ": a cast of an object");
+            return super.visitTypeCast(tree, v);
         }
 
         @Override
